@@ -1,10 +1,11 @@
+import java.util.Comparator;
 import java.util.Random;
 import java.util.TreeMap;
 import java.util.function.Supplier;
 
 /** All promises: long runs of calls, by a seed of their own each, answered by the class and by the plain model. */
 public final class PlainModelTest {
-    private static final int RUNS = 3000;
+    private static final int RUNS = 1500;
     private static final int CALLS = 512;
     private static final char[] FIELDS = {'r', 'm', 'x'};
     private static final TreeMap<String, Integer> SEEN = new TreeMap<>();
@@ -132,28 +133,35 @@ public final class PlainModelTest {
         int slot = upTo(6);
         char field = aField();
         int store = upTo(3);
-        switch (random.nextInt(24)) {
-            case 0 -> room(1 + upTo(6));
-            case 1 -> exam();
-            case 2 -> pupil();
-            case 3, 4 -> offer(exam, slot, upTo(model.rooms.size()), random.nextBoolean());
-            case 5, 6, 7, 8, 9, 10 -> {
+        switch (random.nextInt(20)) {
+            case 0 -> addOne();
+            case 1 -> offer(exam, slot, upTo(model.rooms.size()), random.nextBoolean());
+            case 2, 3, 4, 5 -> {
                 int holder = random.nextInt(3) == 0 || model.seats.isEmpty() ? pupil : someHolder();
                 int held = holder >= 0 && random.nextInt(5) != 0 ? someOfferOf(holder, offer) : offer;
                 same("giveUp(" + holder + ", " + held + ")", () -> x.giveUp(holder, held),
                         () -> model.giveUp(holder, held));
             }
-            case 11, 12, 13, 14 -> same("move(" + offer + ", " + slot + ")", () -> x.move(offer, slot),
+            case 6, 7, 8 -> same("move(" + offer + ", " + slot + ")", () -> x.move(offer, slot),
                     () -> model.move(offer, slot));
-            case 15, 16, 17 -> write(store, pupil, exam, field, aValue(field));
-            case 18, 19, 20, 21 -> sync(store, upTo(3));
-            case 22 -> same("setOwner(" + field + ", " + store + ")", () -> x.setOwner(field, store),
+            case 9, 10, 11 -> write(store, pupil, exam, field, aValue(field));
+            case 12, 13, 14, 15, 16 -> sync(store, upTo(3));
+            case 17 -> same("setOwner(" + field + ", " + store + ")", () -> x.setOwner(field, store),
                     () -> model.setOwner(field, store));
             default -> {
-                if (random.nextInt(3) == 0) {
+                // A slot that is sat early leaves little to happen there.
+                if (made > random.nextInt(CALLS)) {
                     same("sit(" + slot + ")", () -> x.sit(slot), () -> model.sit(slot));
                 }
             }
+        }
+    }
+
+    private void addOne() {
+        switch (random.nextInt(3)) {
+            case 0 -> room(1 + upTo(6));
+            case 1 -> exam();
+            default -> pupil();
         }
     }
 
@@ -244,8 +252,51 @@ public final class PlainModelTest {
         told.append(call).append(" = ").append(answer).append('\n');
         Due.same("run " + run + ", call " + made + ": " + call, answer, answerOf(want));
         Due.isSo("run " + run + ", call " + made + ": isTrue()", x.isTrue());
-        SEEN.merge(call.substring(0, call.indexOf('(')) + (Character.isUpperCase(answer.charAt(0)) ? " " + answer : ""),
-                1, Integer::sum);
+        Due.same("run " + run + ", seats after call " + made + ": " + call, seatsByClass(), seatsByModel());
+        SEEN.merge(call.substring(0, call.indexOf('(')) + kindOf(answer), 1, Integer::sum);
+    }
+
+    private static String kindOf(String answer) {
+        if (Character.isUpperCase(answer.charAt(0))) {
+            return " " + answer;
+        }
+        if (answer.equals("true") || answer.equals("false")) {
+            return " " + answer;
+        }
+        return answer.startsWith("0") || answer.startsWith("-1") ? " 0 or -1" : " 1 or more";
+    }
+
+    /** Who has which points, seats and places in queues, as the class tells it. */
+    private String seatsByClass() {
+        StringBuilder text = new StringBuilder();
+        text.append(x.refunds()).append(' ').append(x.bids()).append(' ').append(x.rounds());
+        for (int pupil = 0; pupil < model.points.size(); pupil++) {
+            text.append(' ').append(x.points(pupil));
+        }
+        for (int offer = 0; offer < model.offers.size(); offer++) {
+            text.append("\n").append(x.slotOf(offer));
+            for (int i = 0; i < x.holders(offer); i++) {
+                int pupil = x.holder(offer, i);
+                text.append(' ').append(pupil).append(':').append(x.paid(pupil, offer));
+            }
+            for (int i = 0; i < x.waiting(offer); i++) {
+                text.append(" +").append(x.waiter(offer, i));
+            }
+        }
+        return text.toString();
+    }
+
+    private String seatsByModel() {
+        StringBuilder text = new StringBuilder();
+        text.append(model.refunds).append(' ').append(model.told.size()).append(' ').append(model.rounds);
+        model.points.forEach(points -> text.append(' ').append(points));
+        for (PlainModel.Offer offer : model.offers) {
+            text.append("\n").append(offer.slot);
+            model.seats.stream().filter(s -> s.offer == offer).sorted(Comparator.comparingInt(s -> s.pupil))
+                    .forEach(s -> text.append(' ').append(s.pupil).append(':').append(s.paid));
+            offer.queue.forEach(b -> text.append(" +").append(b.pupil()));
+        }
+        return text.toString();
     }
 
     private static String answerOf(Supplier<Object> call) {

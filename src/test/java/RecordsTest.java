@@ -154,6 +154,12 @@ public final class RecordsTest {
         x.write(0, 1, 1, 'r', 1);
         Due.is("both the same, the third not", x.setOwner('r', 0), 2);
         Due.refuses("the third is not", x, UnsupportedOperationException.class, () -> x.setOwner('r', 1));
+        int[][] corners = {{0, 0}, {0, 5}, {9, 0}, {9, 5}};
+        for (int[] p : corners) {
+            Classfederation y = Made.school(6, 10, 1);
+            y.write(1, p[0], p[1], 'x', 1);
+            Due.refuses("not the same in one", y, UnsupportedOperationException.class, () -> y.setOwner('x', 1));
+        }
         for (int store : new int[] {3, -1}) {
             Due.refuses("no such store", x, IndexOutOfBoundsException.class, () -> x.setOwner('r', store));
             Due.refuses("no field, no store", x, IllegalArgumentException.class, () -> x.setOwner('q', store));

@@ -13,6 +13,7 @@ public final class SeatsTest {
         promise19();
         promise19PassedOver();
         promise19WaitsNoMore();
+        promise19Queue();
         promise19Refused();
         promise20();
         promise20FreeSeats();
@@ -242,6 +243,26 @@ public final class SeatsTest {
         Due.is("2 moves up", y.giveUp(1, 1), 2);
         Due.is("2 waits no more", y.waiting(0), 0);
         Due.is("nobody moves up", y.giveUp(0, 0), -1);
+    }
+
+    /** Who leaves the queue from its middle leaves the others' places and points as they are. */
+    private static void promise19Queue() {
+        Classfederation x = Made.schoolWithRights(1, 5, 1);
+        x.offer(0, 0, 0, false);
+        x.offer(0, 1, 0, false);
+        for (int pupil = 0; pupil < 5; pupil++) {
+            x.bid(pupil, 0, 50 - 7 * pupil);
+        }
+        x.settle();
+        x.bid(2, 1, 1);
+        x.settle();
+        Due.is("waiting", x.waiting(0), 3);
+        Due.is("who moves up", x.giveUp(0, 0), 1);
+        Due.is("paid", x.paid(1, 0), 43);
+        Due.is("who moves up", x.giveUp(1, 0), 3);
+        Due.is("paid", x.paid(3, 0), 29);
+        Due.is("who moves up", x.giveUp(3, 0), 4);
+        Due.is("paid", x.paid(4, 0), 22);
     }
 
     private static void promise19Refused() {

@@ -13,6 +13,7 @@ public final class SittingTest {
         promise34();
         promise35();
         promise36();
+        fullSchool();
         Due.end();
     }
 
@@ -179,7 +180,7 @@ public final class SittingTest {
         Due.is("299 by 3", x.meanPoints(), 299.0 / 3.0);
     }
 
-    /** The promise can only be kept: no run of calls may make it false. PlainModelTest asks it after every call too. */
+    /** No run of calls may make it false; PlainModelTest asks it after every call too, IsTrueTest where it is false. */
     private static void promise36() {
         Classfederation x = Made.schoolWithRights(2, 3, 1, 1);
         Due.isSo("with pupils", x.isTrue());
@@ -208,5 +209,25 @@ public final class SittingTest {
         x.bid(2, 2, 50);
         x.settle();
         Due.isSo("a resit given back", x.isTrue());
+    }
+
+    /** As many rooms, exams, pupils and offers as there can be, with every pupil in a seat. */
+    private static void fullSchool() {
+        Classfederation x = Made.schoolWithRights(6, 10, 6, 6, 6);
+        for (int i = 0; i < 12; i++) {
+            x.offer(i % 6, i % 4, i / 4, i >= 6);
+        }
+        for (int pupil = 0; pupil < 10; pupil++) {
+            x.bid(pupil, pupil < 5 ? 0 : 1, 10 + pupil);
+        }
+        Due.is("settle", x.settle(), 10);
+        Due.is("meanPoints", x.meanPoints(), 85.5);
+        Due.is("takenShare", x.takenShare(), 10f / 72f);
+        Due.is("move", x.move(0, 5), 0);
+        Due.is("points", x.points(4), 93);
+        Due.is("sit", x.sit(5), 5);
+        Due.is("sit", x.sit(1), 5);
+        Due.isSo("hasSat", x.hasSat(9, 1, false));
+        Due.isSo("isTrue", x.isTrue());
     }
 }
