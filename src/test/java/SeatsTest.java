@@ -639,6 +639,22 @@ public final class SeatsTest {
     }
 
     @Says(promise = 20, text = "Then those who wait move up, as long as a seat is free and somebody can have it.")
+    static void moveWhereAllSixLoseAndAllWhoWaitMoveUp() {
+        Classfederation x = Made.schoolWithRights(2, 10, 6, 6);
+        x.offer(0, 0, 0, false);
+        x.offer(1, 1, 1, false);
+        for (int pupil = 0; pupil < 10; pupil++) {
+            x.bid(pupil, 0, 30 - pupil);
+            x.bid(pupil, 1, pupil < 6 ? 10 : 1);
+        }
+        x.settle();
+        Due.same("waiters", Made.waiters(x, 0), "6 7 8 9");
+        Due.is("six lose", x.move(0, 1), 6);
+        Due.same("four of ten move up", Made.holders(x, 0), "6:24 7:23 8:22 9:21");
+        Due.same("nobody waits", Made.waiters(x, 0), "");
+    }
+
+    @Says(promise = 20, text = "Then those who wait move up, as long as a seat is free and somebody can have it.")
     static void moveLeavesSeatsFreeIfNobodyCanHaveThem() {
         Classfederation x = lostByAMove();
         for (int pupil = 3; pupil < 6; pupil++) {
