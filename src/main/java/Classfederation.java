@@ -231,7 +231,10 @@ public final class Classfederation {
             }
         }
         moved.slot = slot;
-        moveAllUp(moved);
+        int movedUp = 0;
+        while (movedUp < moved.seats && moveOneUp(moved) != NONE) {
+            movedUp++;
+        }
         return lost;
     }
 
@@ -528,14 +531,6 @@ public final class Classfederation {
             }
         }
         return NONE;
-    }
-
-    private void moveAllUp(Offer offer) {
-        for (int i = 0; i < offer.seats; i++) {
-            if (moveOneUp(offer) == NONE) {
-                return;
-            }
-        }
     }
 
     /** Asked while the offer is still at its old slot, so that a seat at the new one is another seat. */
@@ -902,12 +897,14 @@ public final class Classfederation {
         }
 
         private boolean isRightGiven(int pupil, int exam) {
-            return isAgreed(RIGHT, cellOf(pupil, exam)) && valueByOwner(RIGHT, pupil, exam) == 1;
+            int cell = cellOf(pupil, exam);
+            return isAgreed(RIGHT, cell) && values[rowOf(owners[RIGHT], RIGHT)][cell] == 1;
         }
 
         private boolean isResitOpen(int pupil, int exam) {
-            int mark = valueByOwner(MARK, pupil, exam);
-            return isAgreed(MARK, cellOf(pupil, exam)) && mark >= 0 && mark <= BEST_MARK_FOR_RESIT;
+            int cell = cellOf(pupil, exam);
+            int mark = values[rowOf(owners[MARK], MARK)][cell];
+            return isAgreed(MARK, cell) && mark >= 0 && mark <= BEST_MARK_FOR_RESIT;
         }
     }
 }
